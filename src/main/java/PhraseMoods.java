@@ -728,7 +728,7 @@ public final class PhraseMoods {
         case HOLE_F:
           return w.kind == FITTING;
         case HOLE_P:
-          return w.number == plainOf(i);
+          return w.number == plains[i];
         default:
           return false;
       }

@@ -2,9 +2,9 @@ import java.util.Random;
 
 /** Long runs of calls, held against SlowPhraseMoods. Each run is told by its seed. */
 final class ModelTest {
-  private static final int RUNS = 400;
+  private static final int RUNS = 200;
   private static final int CALLS = 500;
-  private static final long WAYS_MOST = 1500;
+  private static final long WAYS_MOST = 300;
   private static final String[] STEMS = {"a", "b", "aa", "ab", "ba", "ka", "kab", "ob", "stemme", "aeiou", "rr"};
   private static final String[] ENDS = {"", "a", "o", "b", "s", "ab", "ba", "oo", "xyz"};
   private static final String[] FRAMES = {
