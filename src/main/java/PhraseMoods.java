@@ -456,20 +456,16 @@ public final class PhraseMoods {
     return letter == NONE ? OUTSIDE : letter;
   }
 
-  /** The bits of a float that is 0 or a normal one above 0; done by hand, for the library's own is not ours to use. */
+  /** The bits of a float from 0 to below 2 ** 24, as all times are; by hand, for the library's own is not ours to use. */
   private static int bitsOf(float t) {
     if (!(t > 0f)) {
       return 0;
     }
     float scaled = t;
     int exponent = 127 + 23;
-    for (int step = 0; step < 300 && scaled < 8388608f; step++) {
+    for (int step = 0; step < 150 && scaled < 8388608f; step++) {
       scaled *= 2f;
       exponent--;
-    }
-    for (int step = 0; step < 300 && scaled >= 16777216f; step++) {
-      scaled /= 2f;
-      exponent++;
     }
     return exponent << 23 | (int) scaled & 0x7fffff;
   }

@@ -143,17 +143,17 @@ final class BookTest {
   private static void frameFaults() {
     PhraseMoods x = Due.small();
     for (int i = 7; i < 12; i++) {
-      Due.word(x, "z", i == 11 ? 0 : 1, 0, 0);
+      Due.word(x, "z", i >= 10 ? 0 : 1, 0, 0);
     }
     String[] texts = {
       "", " ", "\n\n", "x", " x", "n", "n0", "n3", "n00v", "n00v3", "n04", "n0 0", "n 00", "n00 n01", "n00n10n01",
       "v0", "v0 ", "f00", "n00f1", "n00f10", "n00f14", "p", "p ", "px", "p1", "p12", "p99", "p001", "p110", "p0 0",
-      "n00v0v0v0v0v0v0", "n00v0v0v0v0v0 x", "n00v0v0v0v0v0 ", "v0v0v0v0v0v0", "v0v0v0v0v0v0n00", "N00", "n00\t", "n00,",
+      "n00v0v0v0v0v0v0", "n00v0v0v0v0v0 x", "n00v0v0v0v0v0 ", "v0v0v0v0v0v0", "v0v0v0v0v0v0n00", "N00", "n00\t", "n00,", "p:", "p0:", "p/", "n:0", "n0/",
       "n000", "v0 n00 v1", "n00v0p0p7", "f01 n01 p1 v0", "n00\u00ee"};
     int[] places = {
       0, 1, 2, 0, 1, 1, 2, 1, 4, 4, 2, 2, 1, 5, 7,
       2, 3, 3, 5, 6, 5, 1, 1, 1, 1, 1, 1, 3, 3, 3,
-      13, 14, NO_FAULT, 12, 12, 0, 3, 3,
+      13, 14, NO_FAULT, 12, 12, 0, 3, 3, 1, 2, 1, 1, 2,
       3, 9, 8, 9, 3};
     for (int i = 0; i < texts.length; i++) {
       int due = places[i] == NO_FAULT ? 0 : -100 - places[i];
@@ -209,7 +209,17 @@ final class BookTest {
     }
     Due.due("taken word 7", x.taken(7, 0), -2);
     Due.due("taken word -1", x.taken(-1, 0), -2);
-    // Its own GENDER: behind o comes a (gender 1), which drops the o; behind an s nothing is dropped.
+    // By NUMBER 1 and, of a verb, MOOD 1, whatever its GENDER.
+    for (int gender = 0; gender < 3; gender++) {
+      PhraseMoods z = new PhraseMoods();
+      Due.ending(z, "xyz", 0, 1, 1);
+      Due.word(z, "b", 2, 0, gender);
+      Due.word(z, "b", 5, 0, gender);
+      Due.word(z, "b", 4, 0, gender);
+      for (int w = 0; w < 3; w++) {
+        Due.due("taken of gender " + gender, z.taken(w, 0), w == 0 ? 4 : 5);
+      }
+    }
     PhraseMoods y = new PhraseMoods();
     Due.ending(y, "o", 0, 1, 1);
     Due.ending(y, "kk", 0, 1, 0);

@@ -181,6 +181,7 @@ final class TextTest {
     nearIs("the first is filled now", x, 1, 0);
     Due.text(x, "ka");
     nearIs("none of as many holes", x, -1, -1);
+    nearsOfForms();
     // The gender that agrees costs more at the n than it saves at the fitting ones, or less.
     PhraseMoods y = new PhraseMoods();
     Due.word(y, "na", 1, 0, 0);
@@ -191,6 +192,25 @@ final class TextTest {
     nearIs("by gender 1", y, 1, 0);
     Due.text(y, "fa fo na");
     nearIs("by gender 0", y, 1, 0);
+  }
+
+  private static void nearsOfForms() {
+    PhraseMoods x = new PhraseMoods();
+    Due.word(x, "bo", 3, 1, 2);
+    Due.word(x, "v", 2, 0, 0);
+    String[] ends = {"ka", "la", "ma", "na"};
+    for (int i = 0; i < 4; i++) {
+      Due.ending(x, ends[i], 0, i, 0);
+      Due.ending(x, "xyz", 0, i, 1);
+    }
+    Due.ending(x, "t", 1, 2, 0);
+    Due.frame(x, "n02v0");
+    Due.text(x, "bot v");
+    nearIs("no mood is without an ending", x, 2, 0);
+    Due.text(x, "bot vma");
+    nearIs("by case 2 and mood 2", x, 0, 0);
+    Due.text(x, "bo vka");
+    nearIs("no other case", x, 1, 0);
   }
 
   private static void apart() {
