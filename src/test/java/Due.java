@@ -1,7 +1,14 @@
+import java.lang.reflect.InvocationTargetException;
+import java.lang.reflect.Method;
+import java.util.Arrays;
+import java.util.Comparator;
+
 /** Counts the answers that are not the ones that are due, and feeds texts. */
 final class Due {
   private static int wrong = 0;
   private static int asked = 0;
+  /** The test that runs, with a colon; empty, if the class has no tests of their own. */
+  private static String test = "";
 
   private Due() {
   }
@@ -10,7 +17,7 @@ final class Due {
     asked++;
     if (got != want) {
       wrong++;
-      System.out.println(call + " answered " + got + ", due is " + want);
+      System.out.println(test + call + " answered " + got + ", due is " + want);
     }
   }
 
@@ -18,7 +25,7 @@ final class Due {
     asked++;
     if (!got.equals(want)) {
       wrong++;
-      System.out.println(call + " answered \"" + got + "\", due is \"" + want + "\"");
+      System.out.println(test + call + " answered \"" + got + "\", due is \"" + want + "\"");
     }
   }
 
@@ -26,6 +33,40 @@ final class Due {
     System.out.println(asked + " answers, " + wrong + " not as due");
     if (wrong != 0 || asked == 0) {
       System.exit(1);
+    }
+  }
+
+  /**
+   * Runs the tests of a class, each told by its name: the static methods that begin with p and the number of the
+   * promise that they hold. So none can be written and not run.
+   */
+  static void runAll(Class<?> tests) {
+    Method[] methods = tests.getDeclaredMethods();
+    Arrays.sort(methods, Comparator.comparing(Method::getName));
+    int run = 0;
+    for (Method m : methods) {
+      if (m.getName().matches("p[0-9][0-9].*")) {
+        test = m.getName() + ": ";
+        int before = asked;
+        runOne(m);
+        due("asks something", asked > before ? 1 : 0, 1);
+        run++;
+      }
+    }
+    test = "";
+    System.out.println(run + " tests");
+    end();
+  }
+
+  private static void runOne(Method m) {
+    try {
+      m.invoke(null);
+    } catch (InvocationTargetException e) {
+      wrong++;
+      System.out.println(test + "threw " + e.getCause());
+    } catch (IllegalAccessException e) {
+      wrong++;
+      System.out.println(test + "can't be called");
     }
   }
 

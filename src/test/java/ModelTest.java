@@ -1,9 +1,11 @@
 import java.util.Random;
 
-/** Long runs of calls, held against SlowPhraseMoods. Each run is told by its seed. */
+/** Long runs of calls, held against SlowPhraseMoods. Each run is told by its seed, and stays within 512 calls. */
 final class ModelTest {
-  private static final int RUNS = 200;
-  private static final int CALLS = 500;
+  private static final int RUNS = 1000;
+  private static final int CALLS_MOST = 512;
+  /** More than any step calls. */
+  private static final int STEP_CALLS = 100;
   private static final long WAYS_MOST = 300;
   private static final String[] STEMS = {"a", "b", "aa", "ab", "ba", "ka", "kab", "ob", "stemme", "aeiou", "rr"};
   private static final String[] ENDS = {"", "a", "o", "b", "s", "ab", "ba", "oo", "xyz"};
@@ -16,6 +18,7 @@ final class ModelTest {
   private final SlowPhraseMoods y = new SlowPhraseMoods();
   private final int run;
   private String call = "";
+  private int calls;
   private int wordsMost;
 
   private ModelTest(int run) {
@@ -32,12 +35,15 @@ final class ModelTest {
   }
 
   private void go() {
-    for (int i = 0; i < CALLS; i++) {
+    for (int i = 0; calls + STEP_CALLS <= CALLS_MOST; i++) {
+      int before = calls;
       step(i);
+      Due.due("run " + run + ": calls of a step", calls - before <= STEP_CALLS ? 1 : 0, 1);
     }
   }
 
   private void same(int got, int want) {
+    calls++;
     Due.due("run " + run + ", " + call, got, want);
   }
 

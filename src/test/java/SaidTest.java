@@ -167,6 +167,19 @@ final class SaidTest {
     return t;
   }
 
+  private static void speaksAtEachTempo(int noun) {
+    PhraseMoods x = Due.small();
+    Due.frame(x, "n00v0p0f00");
+    x.desk(0, 2);
+    x.choose(0, noun);
+    x.choose(1, noun % 2 == 0 ? 6 : 3);
+    x.number(0, noun >> 1 & 1);
+    String line = Due.said(x);
+    for (int tempo = 1; tempo <= 99; tempo++) {
+      Due.due("spoken(" + tempo + ") of " + line, x.spoken(tempo), Float.floatToIntBits(timeOf(line, tempo)));
+    }
+  }
+
   private static void speaks() {
     PhraseMoods x = Due.small();
     Due.due("spoken, nothing", x.spoken(1), 0);
@@ -177,7 +190,6 @@ final class SaidTest {
     Due.word(x, "z", 1, 2, 0);
     Due.word(x, "a", 1, 2, 0);
     Due.frame(x, "n00");
-    Due.frame(x, "n00v0p0f00");
     x.desk(0, 0);
     x.choose(0, 7);
     // 7 + 5.25 + 4 + 3 + 3 + 4 = 26.25
@@ -188,15 +200,8 @@ final class SaidTest {
     Due.due("4 by 4", x.spoken(4), Float.floatToIntBits(1f));
     x.choose(0, 9);
     Due.due("7 by 2", x.spoken(2), Float.floatToIntBits(3.5f));
-    x.desk(1, 2);
-    for (int noun : new int[] {1, 2, 4, 7, 8}) {
-      x.choose(0, noun);
-      x.choose(1, noun % 2 == 0 ? 6 : 3);
-      x.number(0, noun >> 1 & 1);
-      String line = Due.said(x);
-      for (int tempo = 1; tempo <= 99; tempo++) {
-        Due.due("spoken(" + tempo + ") of " + line, x.spoken(tempo), Float.floatToIntBits(timeOf(line, tempo)));
-      }
+    for (int noun : new int[] {1, 2, 4}) {
+      speaksAtEachTempo(noun);
     }
     PhraseMoods y = new PhraseMoods();
     Due.word(y, "aeiaei", 1, 0, 0);
