@@ -366,7 +366,7 @@ final class BoundsOfRefusalsTest {
 
   static void p25Images512() {
     PhraseMoods x = some();
-    // What some() calls is told by how many bytes, words and endings it takes: under 60.
+    // some() makes under 60 calls, so these stay within the 512.
     for (int i = 0; i < 225; i++) {
       Due.due("image", x.image(), 8);
       Due.due("back", x.back(), 8);
